@@ -1,0 +1,173 @@
+import java.util.List;
+import java.util.Random;
+
+/** Houses of many kinds, each held against the oracle in all that can be asked about it. */
+public final class OracleTest {
+    private final Random random;
+    private final Slicehouse house = new Slicehouse();
+    private final Oracle oracle = new Oracle();
+    private final String name;
+
+    private OracleTest(int seed) {
+        random = new Random(seed);
+        name = "house " + seed;
+    }
+
+    public static void main(String[] args) {
+        for (int seed = 0; seed < 400 && Check.wrong() < 20; seed++) {
+            new OracleTest(seed).look(seed);
+        }
+        Check.end("OracleTest");
+    }
+
+    private int pick(int least, int most) {
+        return least + random.nextInt(most - least + 1);
+    }
+
+    private void look(int seed) {
+        boolean isLarge = seed % 20 == 0;
+        tellJobs(isLarge ? 12 : pick(0, 7), isLarge ? 30 : pick(1, 12), pick(0, seed % 3 == 0 ? 99 : 12));
+        tellWaits(seed % 4 == 0 ? 0 : pick(0, 4));
+        tellLocks(pick(0, 8));
+        tellTurns();
+        compareJobs();
+        for (int rule = 0; rule < 9; rule++) {
+            compareRun(rule);
+        }
+    }
+
+    private void tellJobs(int count, int mostLength, int lastComing) {
+        for (int number = 0; number < count; number++) {
+            Oracle.Told told = new Oracle.Told();
+            told.comes = pick(0, lastComing);
+            told.length = pick(1, mostLength);
+            told.deadline = pick(0, 3) == 0 ? 0 : Math.min(400, Math.max(1, told.comes + pick(-5, 4 * mostLength)));
+            told.weight = pick(1, 9);
+            oracle.jobs.add(told);
+            int due = number;
+            Check.due(name + " job", due, () -> house.job(told.comes, told.length, told.deadline, told.weight));
+        }
+    }
+
+    private void tellWaits(int count) {
+        for (int i = 0; i < count && oracle.jobs.size() > 1; i++) {
+            int job = pick(1, oracle.jobs.size() - 1);
+            int other = pick(0, job - 1);
+            oracle.jobs.get(job).waitsFor.add(other);
+            Check.due(name + " after", oracle.jobs.get(job).waitsFor.size(), () -> house.after(job, other));
+        }
+    }
+
+    private void tellLocks(int count) {
+        for (int i = 0; i < count && !oracle.jobs.isEmpty(); i++) {
+            int job = pick(0, oracle.jobs.size() - 1);
+            int lock = pick(0, 2);
+            int from = pick(-1, oracle.jobs.get(job).length - 1);
+            int to = pick(from, oracle.jobs.get(job).length + (pick(0, 9) == 0 ? 1 : 0));
+            List<int[]> stretches = oracle.jobs.get(job).stretches;
+            boolean isIllegal = from < 0 || to <= from || to > oracle.jobs.get(job).length;
+            for (int[] stretch : stretches) {
+                isIllegal = isIllegal || Math.max(from, stretch[1]) < Math.min(to, stretch[2]);
+            }
+            if (isIllegal) {
+                Check.illegalArgument(name + " lock", () -> house.lock(job, lock, from, to));
+            } else if (stretches.size() == 3) {
+                Check.illegalState(name + " lock", () -> house.lock(job, lock, from, to));
+            } else {
+                stretches.add(new int[] {lock, from, to});
+                Check.due(name + " lock", stretches.size(), () -> house.lock(job, lock, from, to));
+            }
+        }
+    }
+
+    private void tellTurns() {
+        if (pick(0, 4) == 0) {
+            return;
+        }
+        oracle.slice = pick(1, pick(0, 3) == 0 ? 20 : 4);
+        oracle.change = pick(0, 1) == 0 ? 0 : pick(1, 5);
+        oracle.rise = pick(0, pick(0, 1) == 0 ? 12 : 99);
+        oracle.seed = random.nextInt();
+        oracle.lending = random.nextBoolean();
+        Check.due(name + " turns", 2, () ->
+                house.turns(oracle.slice, oracle.change, oracle.rise, oracle.seed, oracle.lending));
+    }
+
+    private void compareJobs() {
+        Check.illegalState(name + " checksum without a run", () -> house.checksum());
+        Check.due(name + " best", oracle.best(), () -> house.best());
+        for (int bits = 0; bits < 4; bits++) {
+            boolean isLeast = (bits & 1) != 0;
+            boolean isLate = (bits & 2) != 0;
+            int due = oracle.two(isLeast)[isLate ? 1 : 0];
+            Check.due(name + " two " + isLeast + " " + isLate, due, () -> house.two(isLeast, isLate));
+        }
+        if (oracle.doesAnyWait()) {
+            Check.illegalState(name + " isFeasible", () -> house.isFeasible());
+        } else {
+            Check.due(name + " isFeasible", oracle.isFeasible(), () -> house.isFeasible());
+        }
+        int[] full = oracle.full();
+        for (int what = 0; what < 3; what++) {
+            int asked = what;
+            Check.due(name + " full " + what, full == null ? -1 : full[what], () -> house.full(asked));
+        }
+        Check.due(name + " errors", 0, () -> house.errors());
+    }
+
+    private void compareRun(int rule) {
+        String run = name + " by rule " + rule;
+        oracle.run(rule);
+        int length = oracle.did.size();
+        Check.due(run + " run", length, () -> house.run(rule));
+        for (int moment = 0; moment <= length + 1; moment++) {
+            int at = moment;
+            Check.due(run + " running " + at, at < length ? oracle.did.get(at) : -1, () -> house.running(at));
+            Check.due(run + " work " + at, oracle.work(at), () -> house.work(at));
+        }
+        for (int number = 0; number < oracle.jobs.size(); number++) {
+            compareJob(run, number, length);
+        }
+        int jobs = oracle.jobs.size();
+        Check.outOfBounds(run + " end", () -> house.end(jobs));
+        Check.due(run + " sumOfEnds", oracle.sumOfEnds(), () -> house.sumOfEnds());
+        if (jobs == 0) {
+            Check.illegalState(run + " slowest", () -> house.slowest(false));
+        } else {
+            Check.due(run + " slowest", oracle.slowest()[0], () -> house.slowest(false));
+            Check.due(run + " slowest", oracle.slowest()[1], () -> house.slowest(true));
+        }
+        compareBusy(run);
+        Check.due(run + " checksum", oracle.checksum(), () -> house.checksum());
+        Check.due(run + " meanEnd", oracle.meanEnd(), () -> house.meanEnd());
+        Check.due(run + " workShare", oracle.workShare(), () -> house.workShare());
+        Check.due(run + " which", oracle.which(), () -> house.which());
+        oracle.run(rule);
+        Check.due(run + " checksum after which", oracle.checksum(), () -> house.checksum());
+    }
+
+    private void compareJob(String run, int job, int length) {
+        String what = run + " job " + job + " ";
+        for (int moment = 0; moment <= length; moment += 1 + moment / 10) {
+            int at = moment;
+            int due = oracle.jobs.get(job).length - oracle.done(job, at);
+            Check.due(what + "left " + at, due, () -> house.left(job, at));
+        }
+        Check.due(what + "end", oracle.end(job), () -> house.end(job));
+        Check.due(what + "waits", oracle.waits(job), () -> house.waits(job));
+        Check.due(what + "blocked", oracle.kept[job], () -> house.blocked(job));
+        Check.due(what + "late", oracle.late(job), () -> house.late(job));
+    }
+
+    private void compareBusy(String run) {
+        List<int[]> busy = oracle.busy();
+        Check.due(run + " busy", busy.size(), () -> house.busy(-1, random.nextBoolean()));
+        for (int number = 0; number < busy.size(); number++) {
+            int index = number;
+            Check.due(run + " busy from " + index, busy.get(index)[0], () -> house.busy(index, false));
+            Check.due(run + " busy to " + index, busy.get(index)[1], () -> house.busy(index, true));
+        }
+        Check.noSuchElement(run + " busy", () -> house.busy(busy.size(), true));
+        Check.noSuchElement(run + " busy", () -> house.busy(-2, true));
+    }
+}

@@ -1,3 +1,4 @@
+import java.math.BigInteger;
 import java.util.ArrayList;
 import java.util.LinkedList;
 import java.util.List;
@@ -27,6 +28,38 @@ final class Oracle {
     // The run that is being made, or was made last.
     List<Integer> did = new ArrayList<>();
     int[] kept = new int[12];
+
+    final List<int[]> tasks = new ArrayList<>();
+
+    /** The load above and below the line. */
+    BigInteger[] load() {
+        BigInteger above = BigInteger.ZERO;
+        BigInteger below = BigInteger.ONE;
+        for (int[] task : tasks) {
+            BigInteger period = BigInteger.valueOf(task[0]);
+            above = above.multiply(period).add(below.multiply(BigInteger.valueOf(task[1])));
+            below = below.multiply(period);
+        }
+        BigInteger common = above.gcd(below);
+        return new BigInteger[] {above.divide(common), below.divide(common)};
+    }
+
+    int response(int asked) {
+        int[] mine = tasks.get(asked);
+        int time = 0;
+        int work;
+        do {
+            time++;
+            work = mine[1];
+            for (int task = 0; task < tasks.size(); task++) {
+                int[] its = tasks.get(task);
+                if (its[2] < mine[2] || its[2] == mine[2] && task < asked) {
+                    work += its[1] * (int) Math.ceil((double) time / its[0]);
+                }
+            }
+        } while (work != time && time <= mine[2]);
+        return time <= mine[2] ? time : -1;
+    }
 
     int done(int job, int moment) {
         int sum = 0;

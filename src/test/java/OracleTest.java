@@ -14,7 +14,8 @@ public final class OracleTest {
     }
 
     public static void main(String[] args) {
-        for (int seed = 0; seed < 400 && Check.wrong() < 20; seed++) {
+        int houses = args.length == 0 ? 400 : Integer.parseInt(args[0]);
+        for (int seed = 0; seed < houses && Check.wrong() < 20; seed++) {
             new OracleTest(seed).look(seed);
         }
         Check.end("OracleTest");
@@ -28,8 +29,9 @@ public final class OracleTest {
         boolean isLarge = seed % 20 == 0;
         tellJobs(isLarge ? 12 : pick(0, 7), isLarge ? 30 : pick(1, 12), pick(0, seed % 3 == 0 ? 99 : 12));
         tellWaits(seed % 4 == 0 ? 0 : pick(0, 4));
-        tellLocks(pick(0, 8));
+        tellLocks(pick(0, 30), pick(0, 2));
         tellTurns();
+        tellTasks(pick(0, 5));
         compareJobs();
         for (int rule = 0; rule < 9; rule++) {
             compareRun(rule);
@@ -58,12 +60,12 @@ public final class OracleTest {
         }
     }
 
-    private void tellLocks(int count) {
+    private void tellLocks(int count, int lastLock) {
         for (int i = 0; i < count && !oracle.jobs.isEmpty(); i++) {
             int job = pick(0, oracle.jobs.size() - 1);
-            int lock = pick(0, 2);
-            int from = pick(-1, oracle.jobs.get(job).length - 1);
-            int to = pick(from, oracle.jobs.get(job).length + (pick(0, 9) == 0 ? 1 : 0));
+            int lock = pick(0, lastLock);
+            int from = pick(pick(0, 9) == 0 ? -1 : 0, oracle.jobs.get(job).length - 1);
+            int to = pick(0, 4) == 0 ? pick(from, oracle.jobs.get(job).length + 1) : from + pick(1, 5);
             List<int[]> stretches = oracle.jobs.get(job).stretches;
             boolean isIllegal = from < 0 || to <= from || to > oracle.jobs.get(job).length;
             for (int[] stretch : stretches) {
@@ -91,6 +93,23 @@ public final class OracleTest {
         oracle.lending = random.nextBoolean();
         Check.due(name + " turns", 2, () ->
                 house.turns(oracle.slice, oracle.change, oracle.rise, oracle.seed, oracle.lending));
+    }
+
+    private void tellTasks(int count) {
+        for (int number = 0; number < count; number++) {
+            int period = pick(1, 60);
+            int length = pick(1, Math.min(30, 1 + period / 4));
+            int deadline = pick(Math.max(length, period - pick(0, 20)), period);
+            int due = number;
+            oracle.tasks.add(new int[] {period, length, deadline});
+            Check.due(name + " task", due, () -> house.task(period, length, deadline));
+        }
+        Check.due(name + " load above", oracle.load()[0].longValueExact(), () -> house.load(false));
+        Check.due(name + " load below", oracle.load()[1].longValueExact(), () -> house.load(true));
+        for (int number = 0; number < count; number++) {
+            int task = number;
+            Check.due(name + " response " + task, oracle.response(task), () -> house.response(task));
+        }
     }
 
     private void compareJobs() {

@@ -12,6 +12,7 @@ public final class Slicehouse {
     private static final int MOST_TASKS = 5;
     private static final int MOST_SLICE = 20;
     private static final int LAST_COMING = 99;
+    private static final int LAST_DEADLINE = 400;
     // The worker is idle before moment 99 alone, and each of 12 * 30 moments of work has
     // at most 5 of changing ahead of it: no run is longer than 99 + 360 * 6 = 2259.
     private static final int MOST_MOMENTS = 2304;
@@ -35,7 +36,7 @@ public final class Slicehouse {
 
     public int job(int comes, int length, int deadline, int weight) throws IllegalArgumentException, IllegalStateException {
         if (isOutside(comes, 0, LAST_COMING) || isOutside(length, 1, 30)
-                || isOutside(deadline, 0, 400) || isOutside(weight, 1, 9)) {
+                || isOutside(deadline, 0, LAST_DEADLINE) || isOutside(weight, 1, 9)) {
             throw new IllegalArgumentException();
         }
         if (jobs.count >= MOST_JOBS) {
@@ -211,11 +212,11 @@ public final class Slicehouse {
 
     public int best() {
         int bestSlice = 1;
-        int least = Integer.MAX_VALUE;
+        int least = 0;
         for (int slice = 1; slice <= MOST_SLICE; slice++) {
             trial.follow(RING, slice, ways.change, ways.lending);
             int sum = trial.progress.endsTogether();
-            if (sum < least) {
+            if (slice == 1 || sum < least) {
                 least = sum;
                 bestSlice = slice;
             }
@@ -483,7 +484,7 @@ public final class Slicehouse {
 
         /** A number by which deadlines are compared: none is later than all. */
         int deadlineKey(int job) {
-            return deadlines.at(job) == 0 ? Integer.MAX_VALUE : deadlines.at(job);
+            return deadlines.at(job) == 0 ? LAST_DEADLINE + 1 : deadlines.at(job);
         }
 
         int letWait(int job, int other) {

@@ -14,7 +14,7 @@ public final class SourceTest {
     private static final Path SOURCE = Path.of("src", "main", "java", "Slicehouse.java");
     private static final String[] FORBIDDEN = {
         "->", "::", "\\bcatch\\b", "\\btry\\b", "\\bfinally\\b", "\\bsynchronized\\b", "\\bassert\\b", "\\bstatic \\{",
-        "\\bpackage\\b", "\\bprotected\\b", "\\bvar\\b", "Exact\\(", "\\+ \"", "\" \\+", "\\bSystem\\.", "@",
+        "\\bpackage\\b", "\\bprotected\\b", "\\bvar\\b", "Exact\\(", "MAX_VALUE", "MIN_VALUE", "\\+ \"", "\" \\+", "\\bSystem\\.", "@",
     };
 
     private SourceTest() {

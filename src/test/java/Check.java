@@ -7,19 +7,28 @@ final class Check {
         Object answer();
     }
 
+    static final String ILLEGAL_ARGUMENT = "throws java.lang.IllegalArgumentException";
+    static final String ILLEGAL_STATE = "throws java.lang.IllegalStateException";
+    static final String OUT_OF_BOUNDS = "throws java.lang.IndexOutOfBoundsException";
+    static final String NO_SUCH_ELEMENT = "throws java.util.NoSuchElementException";
+
     private static int wrong = 0;
     private static int looked = 0;
 
     private Check() {
     }
 
-    static void due(String what, Object due, Call call) {
-        Object got;
+    /** The answer of a call, or the name of the exception that it throws. */
+    static Object answerOf(Call call) {
         try {
-            got = call.answer();
+            return call.answer();
         } catch (RuntimeException e) {
-            got = "throws " + e.getClass().getName();
+            return "throws " + e.getClass().getName();
         }
+    }
+
+    static void due(String what, Object due, Call call) {
+        Object got = answerOf(call);
         looked++;
         if (!Objects.equals(got, due)) {
             wrong++;
@@ -28,19 +37,19 @@ final class Check {
     }
 
     static void illegalArgument(String what, Call call) {
-        due(what, "throws java.lang.IllegalArgumentException", call);
+        due(what, ILLEGAL_ARGUMENT, call);
     }
 
     static void illegalState(String what, Call call) {
-        due(what, "throws java.lang.IllegalStateException", call);
+        due(what, ILLEGAL_STATE, call);
     }
 
     static void outOfBounds(String what, Call call) {
-        due(what, "throws java.lang.IndexOutOfBoundsException", call);
+        due(what, OUT_OF_BOUNDS, call);
     }
 
     static void noSuchElement(String what, Call call) {
-        due(what, "throws java.util.NoSuchElementException", call);
+        due(what, NO_SUCH_ELEMENT, call);
     }
 
     static int wrong() {

@@ -460,6 +460,8 @@ public final class Slicehouse {
         final Row comes = new Row(MOST_JOBS);
         final Row lengths = new Row(MOST_JOBS);
         final Row deadlines = new Row(MOST_JOBS);
+        // By these deadlines are compared: none is later than all.
+        final Row deadlineKeys = new Row(MOST_JOBS);
         final Row weights = new Row(MOST_JOBS);
         // Bit k stands for the job k.
         final Row waitsFor = new Row(MOST_JOBS);
@@ -475,16 +477,12 @@ public final class Slicehouse {
             comes.put(job, comesAt);
             lengths.put(job, length);
             deadlines.put(job, deadline);
+            deadlineKeys.put(job, deadline == 0 ? LAST_DEADLINE + 1 : deadline);
             weights.put(job, weight);
             waitsFor.put(job, 0);
             stretchCounts.put(job, 0);
             count++;
             return job;
-        }
-
-        /** A number by which deadlines are compared: none is later than all. */
-        int deadlineKey(int job) {
-            return deadlines.at(job) == 0 ? LAST_DEADLINE + 1 : deadlines.at(job);
         }
 
         int letWait(int job, int other) {
@@ -1144,7 +1142,7 @@ public final class Slicehouse {
                 case SHARES:
                     return counts.at(job);
                 default:
-                    return jobs.deadlineKey(job);
+                    return jobs.deadlineKeys.at(job);
             }
         }
 
@@ -1217,7 +1215,7 @@ public final class Slicehouse {
             int leastKey = 0;
             for (int job = 0; job < jobs.count; job++) {
                 if (progress.isReady(job) && job != without) {
-                    int key = isLeast ? progress.lefts.at(job) : jobs.deadlineKey(job);
+                    int key = isLeast ? progress.lefts.at(job) : jobs.deadlineKeys.at(job);
                     if (least == NONE || key < leastKey) {
                         least = job;
                         leastKey = key;

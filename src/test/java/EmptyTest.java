@@ -174,8 +174,9 @@ public final class EmptyTest {
                 house.job(job, 9 + job, 1 + job, 9 - job % 9);
                 house.lock(job, job % 3, 0, 9);
             }
-            house.after(1, 0);
-            house.after(11, 10);
+            for (int job = 1; job < 12; job++) {
+                house.after(job, job - 1);
+            }
             house.run(rule);
             house.errors();
             Check.due("6: clear of twelve", 12, () -> house.clear());

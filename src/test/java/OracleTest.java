@@ -3,10 +3,14 @@ import java.util.Random;
 
 /** Houses of many kinds, each held against the oracle in all that can be asked about it. */
 public final class OracleTest {
+    private static final int MOST_CALLS = 512;
+
     private final Random random;
-    private final Slicehouse house = new Slicehouse();
     private final Oracle oracle = new Oracle();
     private final String name;
+    private Slicehouse house = new Slicehouse();
+    private int calls = MOST_CALLS;
+    private int latest = Slicehouse.RING;
 
     private OracleTest(int seed) {
         random = new Random(seed);
@@ -19,6 +23,35 @@ public final class OracleTest {
             new OracleTest(seed).look(seed);
         }
         Check.end("OracleTest");
+    }
+
+    /** The house, or another one of which the same is told, as one is used for so many calls alone. */
+    private Slicehouse asked() {
+        calls++;
+        if (calls > MOST_CALLS) {
+            house = new Slicehouse();
+            int told = tellAgain();
+            house.run(latest);
+            // The run, and the call that is asked next.
+            calls = told + 2;
+        }
+        return house;
+    }
+
+    private int tellAgain() {
+        int told = 1;
+        house.turns(oracle.slice, oracle.change, oracle.rise, oracle.seed, oracle.lending);
+        for (Oracle.Told job : oracle.jobs) {
+            int number = house.job(job.comes, job.length, job.deadline, job.weight);
+            for (int other : job.waitsFor) {
+                house.after(number, other);
+            }
+            for (int[] stretch : job.stretches) {
+                house.lock(number, stretch[0], stretch[1], stretch[2]);
+            }
+            told += 1 + job.waitsFor.size() + job.stretches.size();
+        }
+        return told;
     }
 
     private int pick(int least, int most) {
@@ -136,33 +169,34 @@ public final class OracleTest {
 
     private void compareRun(int rule) {
         String run = name + " by rule " + rule;
+        latest = rule;
         oracle.run(rule);
         int length = oracle.did.size();
-        Check.due(run + " run", length, () -> house.run(rule));
+        Check.due(run + " run", length, () -> asked().run(rule));
         for (int moment = 0; moment <= length + 1; moment++) {
             int at = moment;
-            Check.due(run + " running " + at, at < length ? oracle.did.get(at) : -1, () -> house.running(at));
-            Check.due(run + " work " + at, oracle.work(at), () -> house.work(at));
+            Check.due(run + " running " + at, at < length ? oracle.did.get(at) : -1, () -> asked().running(at));
+            Check.due(run + " work " + at, oracle.work(at), () -> asked().work(at));
         }
         for (int number = 0; number < oracle.jobs.size(); number++) {
             compareJob(run, number, length);
         }
         int jobs = oracle.jobs.size();
-        Check.outOfBounds(run + " end", () -> house.end(jobs));
-        Check.due(run + " sumOfEnds", oracle.sumOfEnds(), () -> house.sumOfEnds());
+        Check.outOfBounds(run + " end", () -> asked().end(jobs));
+        Check.due(run + " sumOfEnds", oracle.sumOfEnds(), () -> asked().sumOfEnds());
         if (jobs == 0) {
-            Check.illegalState(run + " slowest", () -> house.slowest(false));
+            Check.illegalState(run + " slowest", () -> asked().slowest(false));
         } else {
-            Check.due(run + " slowest", oracle.slowest()[0], () -> house.slowest(false));
-            Check.due(run + " slowest", oracle.slowest()[1], () -> house.slowest(true));
+            Check.due(run + " slowest", oracle.slowest()[0], () -> asked().slowest(false));
+            Check.due(run + " slowest", oracle.slowest()[1], () -> asked().slowest(true));
         }
         compareBusy(run);
-        Check.due(run + " checksum", oracle.checksum(), () -> house.checksum());
-        Check.due(run + " meanEnd", oracle.meanEnd(), () -> house.meanEnd());
-        Check.due(run + " workShare", oracle.workShare(), () -> house.workShare());
-        Check.due(run + " which", oracle.which(), () -> house.which());
+        Check.due(run + " checksum", oracle.checksum(), () -> asked().checksum());
+        Check.due(run + " meanEnd", oracle.meanEnd(), () -> asked().meanEnd());
+        Check.due(run + " workShare", oracle.workShare(), () -> asked().workShare());
+        Check.due(run + " which", oracle.which(), () -> asked().which());
         oracle.run(rule);
-        Check.due(run + " checksum after which", oracle.checksum(), () -> house.checksum());
+        Check.due(run + " checksum after which", oracle.checksum(), () -> asked().checksum());
     }
 
     private void compareJob(String run, int job, int length) {
@@ -170,23 +204,23 @@ public final class OracleTest {
         for (int moment = 0; moment <= length; moment += 1 + moment / 10) {
             int at = moment;
             int due = oracle.jobs.get(job).length - oracle.done(job, at);
-            Check.due(what + "left " + at, due, () -> house.left(job, at));
+            Check.due(what + "left " + at, due, () -> asked().left(job, at));
         }
-        Check.due(what + "end", oracle.end(job), () -> house.end(job));
-        Check.due(what + "waits", oracle.waits(job), () -> house.waits(job));
-        Check.due(what + "blocked", oracle.kept[job], () -> house.blocked(job));
-        Check.due(what + "late", oracle.late(job), () -> house.late(job));
+        Check.due(what + "end", oracle.end(job), () -> asked().end(job));
+        Check.due(what + "waits", oracle.waits(job), () -> asked().waits(job));
+        Check.due(what + "blocked", oracle.kept[job], () -> asked().blocked(job));
+        Check.due(what + "late", oracle.late(job), () -> asked().late(job));
     }
 
     private void compareBusy(String run) {
         List<int[]> busy = oracle.busy();
-        Check.due(run + " busy", busy.size(), () -> house.busy(-1, random.nextBoolean()));
+        Check.due(run + " busy", busy.size(), () -> asked().busy(-1, random.nextBoolean()));
         for (int number = 0; number < busy.size(); number++) {
             int index = number;
-            Check.due(run + " busy from " + index, busy.get(index)[0], () -> house.busy(index, false));
-            Check.due(run + " busy to " + index, busy.get(index)[1], () -> house.busy(index, true));
+            Check.due(run + " busy from " + index, busy.get(index)[0], () -> asked().busy(index, false));
+            Check.due(run + " busy to " + index, busy.get(index)[1], () -> asked().busy(index, true));
         }
-        Check.noSuchElement(run + " busy", () -> house.busy(busy.size(), true));
-        Check.noSuchElement(run + " busy", () -> house.busy(-2, true));
+        Check.noSuchElement(run + " busy", () -> asked().busy(busy.size(), true));
+        Check.noSuchElement(run + " busy", () -> asked().busy(-2, true));
     }
 }

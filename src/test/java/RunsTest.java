@@ -34,9 +34,8 @@ public final class RunsTest {
         for (int rule = Slicehouse.RING; rule <= Slicehouse.RANKS; rule++) {
             Check.run("7: without jobs", house, rule, "");
         }
-        house.job(99, 1, 0, 1);
         for (int rule = Slicehouse.RING; rule <= Slicehouse.RANKS; rule++) {
-            Check.run("7: one late job", house, rule, "-".repeat(99) + "a");
+            Check.run("7: one late job", Houses.with(Houses.job(99, 1)), rule, "-".repeat(99) + "a");
         }
         Slicehouse longest = new Slicehouse();
         for (int job = 0; job < 12; job++) {

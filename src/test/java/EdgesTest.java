@@ -277,6 +277,11 @@ public final class EdgesTest {
             one.run(rule);
             Check.due("19: one job, all rules", 511, () -> one.which());
         }
+        Slicehouse shorter = ran(Houses.with(Houses.job(9, 1)), Slicehouse.RING);
+        shorter.clear();
+        shorter.job(0, 2, 0, 1);
+        shorter.run(Slicehouse.RING);
+        Check.due("19: nothing is left of a longer run", 511, () -> shorter.which());
     }
 
     /** "Returns the slice, of several the least one" */

@@ -59,10 +59,14 @@ public final class OracleTest {
     }
 
     private void look(int seed) {
-        boolean isLarge = seed % 20 == 0;
-        tellJobs(isLarge ? 12 : pick(0, 7), isLarge ? 30 : pick(1, 12), pick(0, seed % 3 == 0 ? 99 : 12));
-        tellWaits(seed % 4 == 0 ? 0 : pick(0, 4));
-        tellLocks(pick(0, 30), pick(0, 2));
+        if (seed % 4 == 1) {
+            tellCrowd(seed);
+        } else {
+            boolean isLarge = seed % 20 == 0;
+            tellJobs(isLarge ? 12 : pick(0, 7), isLarge ? 30 : pick(1, 12), pick(0, seed % 3 == 0 ? 99 : 12));
+            tellWaits(seed % 4 == 0 ? 0 : pick(0, 4));
+            tellLocks(pick(0, 30), pick(0, 2));
+        }
         tellTurns();
         tellTasks(pick(0, 5));
         compareJobs();
@@ -71,17 +75,37 @@ public final class OracleTest {
         }
     }
 
+    /** Jobs that come together, have nearly all their work in lock stretches, and deadlines at any moment. */
+    private void tellCrowd(int seed) {
+        int count = pick(2, 12);
+        int mostLength = pick(1, 9);
+        int lastDeadline = pick(0, 2) == 0 ? 400 : 60;
+        int mostWeight = pick(0, 1) == 0 ? 9 : 3;
+        for (int number = 0; number < count; number++) {
+            int deadline = pick(0, 3) == 0 ? 0 : pick(1, lastDeadline);
+            tellJob(pick(0, seed % 3 == 0 ? 30 : 6), pick(1, mostLength), deadline, pick(1, mostWeight));
+        }
+        tellWaits(seed % 8 == 1 ? 0 : pick(0, 9));
+        tellLocks(pick(20, 90), pick(0, 2));
+    }
+
     private void tellJobs(int count, int mostLength, int lastComing) {
         for (int number = 0; number < count; number++) {
-            Oracle.Told told = new Oracle.Told();
-            told.comes = pick(0, lastComing);
-            told.length = pick(1, mostLength);
-            told.deadline = pick(0, 3) == 0 ? 0 : Math.min(400, Math.max(1, told.comes + pick(-5, 4 * mostLength)));
-            told.weight = pick(1, 9);
-            oracle.jobs.add(told);
-            int due = number;
-            Check.due(name + " job", due, () -> house.job(told.comes, told.length, told.deadline, told.weight));
+            int comes = pick(0, lastComing);
+            int length = pick(1, mostLength);
+            int deadline = pick(0, 3) == 0 ? 0 : Math.min(400, Math.max(1, comes + pick(-5, 4 * mostLength)));
+            tellJob(comes, length, deadline, pick(1, 9));
         }
+    }
+
+    private void tellJob(int comes, int length, int deadline, int weight) {
+        Oracle.Told told = new Oracle.Told();
+        told.comes = comes;
+        told.length = length;
+        told.deadline = deadline;
+        told.weight = weight;
+        oracle.jobs.add(told);
+        Check.due(name + " job", oracle.jobs.size() - 1, () -> house.job(comes, length, deadline, weight));
     }
 
     private void tellWaits(int count) {
